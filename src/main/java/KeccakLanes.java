@@ -32,6 +32,7 @@ public final class KeccakLanes {
         14, 24, 9, 19, 4
     };
 
+    /** One for each round. These rows stand written out so that no object has to work them out again. */
     private static final long[] CONSTANTS = {
         0x0000000000000001L, 0x0000000000008082L, 0x800000000000808AL, 0x8000000080008000L,
         0x000000000000808BL, 0x0000000080000001L, 0x8000000080008081L, 0x8000000000008009L,

@@ -67,21 +67,31 @@ final class Model {
     private static long[][] mixed(long[][] before) {
         long[][] a = before;
         int[][] r = turns();
-        int bits = 1;
+        long[] constants = constants();
         for (int i = 0; i < 24; i++) {
             a = combined(moved(spread(a), r));
+            a[0][0] ^= constants[i];
+        }
+        return a;
+    }
+
+    static long[] constants() {
+        long[] constants = new long[24];
+        int bits = 1;
+        for (int i = 0; i < 24; i++) {
             for (int k = 0; k <= 6; k++) {
-                a[0][0] ^= (long) (bits & 1) << ((1 << k) - 1);
+                constants[i] |= (long) (bits & 1) << ((1 << k) - 1);
                 bits *= 2;
                 if (bits >= 256) {
                     bits ^= 369;
                 }
             }
         }
-        return a;
+        return constants;
     }
 
-    private static int[][] turns() {
+    /** By x, then y. */
+    static int[][] turns() {
         int[][] r = new int[5][5];
         int x = 1;
         int y = 0;

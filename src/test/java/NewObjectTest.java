@@ -1,33 +1,52 @@
-/** Promise 1: a new object has all lanes and places 0, whatever other objects have done. */
+/** Promise 1: a new object. */
 public final class NewObjectTest {
-    public static void main(String[] args) {
-        Checks checks = new Checks();
-        allZero(checks, "the first object", new KeccakLanes());
-        KeccakLanes other = Checks.busy();
-        other.digest(3, 2);
-        other.mix(5);
-        allZero(checks, "an object beside a busy one", new KeccakLanes());
-        objectsAreApart(checks);
-        checks.end();
+    public static void main(String[] args) throws Exception {
+        Sentences.test(NewObjectTest.class);
     }
 
-    private static void allZero(Checks checks, String what, KeccakLanes x) {
+    @Says("all LANES and places 0 at first.")
+    static void everyLaneIs0(Checks checks) {
+        KeccakLanes x = new KeccakLanes();
         for (int s = 0; s < Checks.STATES; s++) {
-            for (int i = 0; i < Checks.LANES; i++) {
-                checks.due(what + ": lane(" + s + ", " + i + ")", x.lane(s, i), 0L);
-            }
-            checks.due(what + ": fill(" + s + ", 9, 9, 0)", x.fill(s, 9, 9, 0), 0);
-            checks.due(what + ": take(" + s + ", 9, 0)", x.take(s, 9L, 0), 0);
-            checks.due(what + ": digest(" + s + ", 0)", x.digest(s, 0), 0xc5d2460186f7233cL);
+            checks.lanesAre("a new object", x, s, new long[Checks.LANES]);
         }
     }
 
-    private static void objectsAreApart(Checks checks) {
+    @Says("all LANES and places 0 at first.")
+    static void everyPlaceIs0(Checks checks) {
+        KeccakLanes x = new KeccakLanes();
+        for (int s = 0; s < Checks.STATES; s++) {
+            checks.due("take(" + s + ", 9, 0)", x.take(s, 9L, 0), 0);
+            checks.due("fill(" + s + ", 9, 9, 0)", x.fill(s, 9, 9, 0), 0);
+        }
+    }
+
+    @Says("`KeccakLanes()`: As said.")
+    static void everyStateHasTakenInNothing(Checks checks) {
+        KeccakLanes x = new KeccakLanes();
+        for (int s = 0; s < Checks.STATES; s++) {
+            for (int part = 0; part < 4; part++) {
+                checks.due("digest(" + s + ", " + part + ")", x.digest(s, part), Known.part(Known.OF_NOTHING, part));
+            }
+        }
+    }
+
+    @Says("`KeccakLanes()`: As said.")
+    static void newBesideABusyObject(Checks checks) {
+        KeccakLanes busy = Checks.busy();
+        busy.digest(3, 2);
+        busy.mix(5);
+        KeccakLanes x = new KeccakLanes();
+        checks.sameStates("a new object beside a busy one", x, new Model());
+    }
+
+    @Says("`KeccakLanes()`: As said.")
+    static void busyBesideANewObject(Checks checks) {
         KeccakLanes x = Checks.busy();
         KeccakLanes y = new KeccakLanes();
         y.fill(2, 1, 1, 500);
         y.copy(2, 6);
         y.clear(0);
-        checks.sameStates("an object beside one that is used", x, Checks.busy());
+        checks.sameStates("a busy object beside a new one that is used", x, Checks.busy());
     }
 }

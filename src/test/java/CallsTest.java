@@ -86,6 +86,23 @@ public final class CallsTest {
         seenByCall512(checks, "mix", x -> x.mix(6), mixedByModel());
     }
 
+    @Says("An object is used for at most 512 calls after it has been made")
+    static void answersByCall512(Checks checks) {
+        checks.due("take as call 512", behind511Calls().take(6, 0xFFL, 1), 1);
+        checks.due("fill as call 512", behind511Calls().fill(6, 1, 1, 2000), 96);
+        checks.due("lane as call 512", behind511Calls().lane(0, 0), 0x0BL);
+        checks.due("digest as call 512", behind511Calls().digest(6, 0), Known.part(Known.OF_NOTHING, 0));
+    }
+
+    private static KeccakLanes behind511Calls() {
+        KeccakLanes x = new KeccakLanes();
+        x.take(0, 0x0BL, 1);
+        for (int i = 1; i < MOST - 1; i++) {
+            x.lane(6, 0);
+        }
+        return x;
+    }
+
     private static void seenByCall512(Checks checks, String what, Checks.Call call, long due) {
         KeccakLanes x = new KeccakLanes();
         x.take(6, 0xAAL, 1);

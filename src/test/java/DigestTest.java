@@ -60,19 +60,33 @@ public final class DigestTest {
         checks.due("digest(0, 3) of nothing", new KeccakLanes().digest(0, 3), 0x7BFAD8045D85A470L);
     }
 
-    /** With the closing bytes taken in by hand, lane 0 is the first eight bytes, the lowest first. */
+    @Says("Bytes 8 part .. 8 part + 7")
+    static void everyPartIsItsEightBytes(Checks checks) {
+        KeccakLanes x = new KeccakLanes();
+        for (int i = 0; i < 32; i++) {
+            long due = Long.parseLong(Known.OF_NOTHING.substring(2 * i, 2 * i + 2), 16);
+            checks.due("byte " + i + " of nothing", (x.digest(0, i / 8) >>> (56 - 8 * (i % 8))) & 255, due);
+        }
+    }
+
     @Says("the first one the highest")
     static void firstByteIsTheHighest(Checks checks) {
-        KeccakLanes x = new KeccakLanes();
-        long part = x.digest(0, 0);
-        x.take(0, 1L, 1);
-        x.fill(0, 0, 0, 134);
-        x.take(0, 128L, 1);
-        for (int i = 0; i < 8; i++) {
-            checks.due("byte " + i, (part >>> (56 - 8 * i)) & 255, (x.lane(0, 0) >>> (8 * i)) & 255);
-        }
+        long part = new KeccakLanes().digest(0, 0);
         checks.due("the first byte", part >>> 56, 0xC5);
         checks.due("the eighth byte", part & 255, 0x3C);
+    }
+
+    @Says("the first 32 bytes of LANES 0 .. 3, the lowest of each first")
+    static void closedByHandItStandsInLanes0To3(Checks checks) {
+        KeccakLanes x = new KeccakLanes();
+        x.copy(0, 1);
+        x.take(1, 1L, 1);
+        x.fill(1, 0, 0, 134);
+        x.take(1, 128L, 1);
+        for (int i = 0; i < 32; i++) {
+            checks.due("byte " + i, (x.digest(0, i / 8) >>> (56 - 8 * (i % 8))) & 255,
+                (x.lane(1, i / 8) >>> (8 * (i % 8))) & 255);
+        }
     }
 
     /** Published Keccak-256 values, among them what Ethereum has for no code, an empty list and a transfer. */

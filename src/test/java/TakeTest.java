@@ -90,6 +90,9 @@ public final class TakeTest {
         KeccakLanes y = new KeccakLanes();
         checks.due("take(0, smallest, 7)", y.take(0, Long.MIN_VALUE, 7), 7);
         checks.onlyLane("all but the highest byte", y, 0, 0, 0L);
+        KeccakLanes z = new KeccakLanes();
+        checks.due("take(0, smallest + 1, 8)", z.take(0, Long.MIN_VALUE + 1, 8), 8);
+        checks.onlyLane("the highest bit and the lowest", z, 0, 0, Long.MIN_VALUE + 1);
     }
 
     @Says("The lowest n bytes of v, the lowest first, are taken in.")

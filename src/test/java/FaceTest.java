@@ -18,13 +18,14 @@ public final class FaceTest {
         "public long KeccakLanes.lane(int,int)" + THROWS,
         "public long KeccakLanes.digest(int,int)" + THROWS);
 
-    public static void main(String[] args) {
+    public static void main(String[] args) throws IllegalAccessException {
         Checks checks = new Checks();
         checks.due("the class's modifiers", KeccakLanes.class.getModifiers(), Modifier.PUBLIC | Modifier.FINAL);
         checks.isTrue("the class is in no package", KeccakLanes.class.getPackageName().isEmpty());
         constructors(checks);
         methods(checks);
         fields(checks);
+        staticRowsStay(checks);
         checks.end();
     }
 
@@ -57,5 +58,26 @@ public final class FaceTest {
             checks.isTrue(field + " is final if it is static",
                 !Modifier.isStatic(modifiers) || Modifier.isFinal(modifiers));
         }
+    }
+
+    /** Rule 5 of LANGUAGE.md: a static row is written out and never changed, so objects share nothing that moves. */
+    private static void staticRowsStay(Checks checks) throws IllegalAccessException {
+        String before = staticValues();
+        KeccakLanes x = Checks.busy();
+        x.copy(1, 2);
+        x.digest(3, 1);
+        x.clear(4);
+        checks.isTrue("static fields stay while an object is used", staticValues().equals(before));
+    }
+
+    private static String staticValues() throws IllegalAccessException {
+        StringBuilder values = new StringBuilder();
+        for (Field field : KeccakLanes.class.getDeclaredFields()) {
+            if (Modifier.isStatic(field.getModifiers())) {
+                field.setAccessible(true);
+                values.append(field.getName()).append(Arrays.deepToString(new Object[] {field.get(null)}));
+            }
+        }
+        return values.toString();
     }
 }

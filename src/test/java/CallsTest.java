@@ -54,6 +54,58 @@ public final class CallsTest {
     }
 
     @Says("An object is used for at most 512 calls after it has been made")
+    static void mixes(Checks checks) {
+        KeccakLanes x = new KeccakLanes();
+        Model m = new Model();
+        for (int i = 0; i < MOST - 1; i++) {
+            x.mix(2);
+            m.mix(2);
+        }
+        checks.due("lane as call 512", x.lane(2, 24), m.lane(2, 24));
+    }
+
+    /** All copies but the last are of state 0, so that the last one is seen. */
+    @Says("An object is used for at most 512 calls after it has been made")
+    static void copies(Checks checks) {
+        KeccakLanes x = new KeccakLanes();
+        x.take(1, 0x0BL, 1);
+        for (int i = 1; i < MOST - 2; i++) {
+            x.copy(0, 2);
+        }
+        x.copy(1, 2);
+        checks.due("lane as call 512", x.lane(2, 0), 0x0BL);
+    }
+
+    /** All clears but the last are of state 0, so that the last one is seen. */
+    @Says("An object is used for at most 512 calls after it has been made")
+    static void clears(Checks checks) {
+        KeccakLanes x = new KeccakLanes();
+        x.take(1, 0x0BL, 1);
+        for (int i = 1; i < MOST - 2; i++) {
+            x.clear(0);
+        }
+        x.clear(1);
+        checks.due("lane as call 512", x.lane(1, 0), 0L);
+    }
+
+    @Says("An object is used for at most 512 calls after it has been made")
+    static void looks(Checks checks) {
+        KeccakLanes x = new KeccakLanes();
+        x.take(1, 0x0BL, 1);
+        for (int i = 1; i < MOST; i++) {
+            checks.due("lane as call " + (i + 1), x.lane(1, 0), 0x0BL);
+        }
+    }
+
+    @Says("An object is used for at most 512 calls after it has been made")
+    static void digests(Checks checks) {
+        KeccakLanes x = new KeccakLanes();
+        for (int i = 0; i < MOST; i++) {
+            checks.due("digest as call " + (i + 1), x.digest(i % 8, 0), Known.part(Known.OF_NOTHING, 0));
+        }
+    }
+
+    @Says("An object is used for at most 512 calls after it has been made")
     static void refusedCalls(Checks checks) {
         KeccakLanes x = new KeccakLanes();
         x.fill(5, 'a', 0, 135);

@@ -49,21 +49,24 @@ final class ReadmeExample {
     private static String checked(String line) {
         Matcher answers = ANSWERS.matcher(line);
         if (answers.matches()) {
-            return "seen.add(new String[] {" + quoted(answers.group(1)) + ", \"\" + (" + answers.group(1) + "), \"\" + ("
-                + answers.group(2) + ")});";
+            String call = answers.group(1);
+            return seen(call, "\"\" + (" + call + ")", "\"\" + (" + answers.group(2) + ")");
         }
         Matcher thrown = THROWS.matcher(line);
         if (thrown.matches()) {
-            String call = quoted(thrown.group(1));
+            String call = thrown.group(1);
             String due = quoted("java.lang." + thrown.group(2));
-            return "try { " + thrown.group(1) + "; seen.add(new String[] {" + call + ", \"nothing thrown\", " + due
-                + "}); } catch (RuntimeException e) { seen.add(new String[] {" + call + ", e.getClass().getName(), " + due
-                + "}); }";
+            return "try { " + call + "; " + seen(call, quoted("and threw nothing"), due)
+                + " } catch (RuntimeException e) { " + seen(call, "e.getClass().getName()", due) + " }";
         }
         if (line.contains("// answers") || line.contains("// throws")) {
             throw new IllegalStateException("README.md has a remark of no known form: " + line);
         }
         return line;
+    }
+
+    private static String seen(String call, String got, String due) {
+        return "seen.add(new String[] {" + quoted(call) + ", " + got + ", " + due + "});";
     }
 
     private static String quoted(String text) {

@@ -54,7 +54,8 @@ public final class ReadmeTest {
     private static void examplesUseEveryCall(Checks checks, String readme) {
         String all = String.join("", examples(readme));
         for (Method method : face()) {
-            checks.isTrue("README.md has an example of " + method.getName(), all.contains("x." + method.getName() + "("));
+            String name = method.getName();
+            checks.isTrue("README.md has an example of " + name, all.contains("x." + name + "("));
         }
     }
 
